@@ -241,7 +241,7 @@ public final class TripleTrains {
 
     public int wouldHave(int quad) throws IndexOutOfBoundsException {
         requireQuad(quad);
-        return quadsBehind(quad);
+        return quadsBehindSwitchOf(quad);
     }
 
     public int bestSwitch(boolean most) {
@@ -256,7 +256,7 @@ public final class TripleTrains {
         int done = 0;
         while (done < times) {
             int best = bestQuad(false);
-            if (best == NONE || quadsBehind(best) >= quads.size) {
+            if (best == NONE || quadsBehindSwitchOf(best) >= quads.size) {
                 break;
             }
             exchangeQuad(best);
@@ -269,7 +269,7 @@ public final class TripleTrains {
 
     public int cycles(int a, int b) throws IndexOutOfBoundsException, IllegalArgumentException {
         requireTwo(a, b);
-        around.find(board, a, b);
+        around.gather(board, a, b);
         return around.size;
     }
 
@@ -311,7 +311,7 @@ public final class TripleTrains {
         int found = 0;
         for (int a = 0; a < board.points; a++) {
             for (int b = a + 1; b < board.points; b++) {
-                around.find(board, a, b);
+                around.gather(board, a, b);
                 found += around.countOfLength(length);
             }
         }
@@ -319,12 +319,12 @@ public final class TripleTrains {
     }
 
     public int trades(int volume) {
-        traded.find(board, around, volume);
+        traded.gather(board, around, volume);
         return traded.size;
     }
 
     public long trade(int volume, int index) throws NoSuchElementException {
-        traded.find(board, around, volume);
+        traded.gather(board, around, volume);
         if (index < 0 || index >= traded.size) {
             throw new NoSuchElementException("no such trade");
         }
@@ -347,7 +347,7 @@ public final class TripleTrains {
     }
 
     public boolean agrees() {
-        traded.find(board, around, 4);
+        traded.gather(board, around, 4);
         if (traded.size != quads.size) {
             return false;
         }
@@ -370,40 +370,40 @@ public final class TripleTrains {
     public int trainsTo(int x, int y, int z)
             throws IndexOutOfBoundsException, IllegalArgumentException, IllegalStateException {
         requireTrain(x, y, z);
-        trains.find(board);
+        trains.gather(board);
         return trains.arrivalsAt(Trains.rankOf(Sets.three(x, y, z)));
     }
 
     public int tail(int x, int y, int z)
             throws IndexOutOfBoundsException, IllegalArgumentException, IllegalStateException {
         requireTrain(x, y, z);
-        trains.find(board);
+        trains.gather(board);
         return trains.tailFrom(Trains.rankOf(Sets.three(x, y, z)));
     }
 
     public int roundOf(int x, int y, int z)
             throws IndexOutOfBoundsException, IllegalArgumentException, IllegalStateException {
         requireTrain(x, y, z);
-        trains.find(board);
+        trains.gather(board);
         return trains.roundFrom(Trains.rankOf(Sets.three(x, y, z)));
     }
 
     public int trainProfile(int many) throws IllegalStateException {
         requireComplete();
-        trains.find(board);
+        trains.gather(board);
         return trains.setsWithArrivals(many);
     }
 
     public int rounds() throws IllegalStateException {
         requireComplete();
-        trains.find(board);
+        trains.gather(board);
         return trains.countRounds();
     }
 
     // ---- turns
 
     public boolean isTurned(int k) {
-        return board.turnKeeps(Math.floorMod(k, board.points));
+        return board.turnKeeps(board.turnWithin(k));
     }
 
     public int leastTurn() {
@@ -425,7 +425,7 @@ public final class TripleTrains {
 
     public int turn(int k) {
         remember();
-        int by = Math.floorMod(k, board.points);
+        int by = board.turnWithin(k);
         spare.reset(board.points);
         int kept = 0;
         for (int t = 0; t < board.size; t++) {
@@ -611,7 +611,7 @@ public final class TripleTrains {
     /** Leaves the cycles of a and b in their rows for the caller. */
     private void requireCycle(int a, int b, int cycle) {
         requireTwo(a, b);
-        around.find(board, a, b);
+        around.gather(board, a, b);
         if (cycle < 0 || cycle >= around.size) {
             throw new NoSuchElementException("no such cycle");
         }
@@ -637,7 +637,7 @@ public final class TripleTrains {
     /** What is derived from the third points is made anew behind each change, not on the way. */
     private void settle() {
         board.list();
-        quads.find(board);
+        quads.gather(board);
     }
 
     private int reasonAgainst(int set) {
@@ -656,7 +656,7 @@ public final class TripleTrains {
         settle();
     }
 
-    private int quadsBehind(int quad) {
+    private int quadsBehindSwitchOf(int quad) {
         quads.planSwitch(board, quad, exchange);
         return quadsBehindExchange();
     }
@@ -671,7 +671,8 @@ public final class TripleTrains {
         int best = NONE;
         int bestLeft = 0;
         for (int q = 0; q < quads.size; q++) {
-            int left = quadsBehind(q);
+            quads.planSwitch(board, q, exchange);
+            int left = quadsBehindExchange();
             if (best == NONE || (most ? left > bestLeft : left < bestLeft)) {
                 best = q;
                 bestLeft = left;
@@ -682,7 +683,7 @@ public final class TripleTrains {
 
     private boolean isPerfect(int a, int b) {
         int others = board.points - (board.thirdOf(a, b) == NONE ? 2 : 3);
-        around.find(board, a, b);
+        around.gather(board, a, b);
         return around.size == 1 && around.lengthOf(0) == others;
     }
 
@@ -815,12 +816,17 @@ public final class TripleTrains {
             return (1 << points) - 1;
         }
 
+        /** The turn from 0 on that leads from each point to where any turn leads. */
+        int turnWithin(int k) {
+            return points < 1 ? 0 : Math.floorMod(k, points);
+        }
+
         int pairs() {
             return points * (points - 1) / 2;
         }
 
         int thirdOf(int a, int b) {
-            return isPoint(a) && isPoint(b) ? thirds[a * MAX_POINTS + b] : NONE;
+            return a >= 0 && a < points && b >= 0 && b < points ? thirds[a * MAX_POINTS + b] : NONE;
         }
 
         int openOf(int point) {
@@ -1112,29 +1118,21 @@ public final class TripleTrains {
         private final int[] triples = new int[4 * MAX_QUADS];
         private final int[] unions = new int[MAX_QUADS];
 
-        void find(Board board) {
-            size = 0;
-            for (int i = 0; i < board.size; i++) {
-                for (int j = i + 1; j < board.size; j++) {
-                    if ((board.setOf(i) & board.setOf(j)) != 0) {
-                        findWith(board, i, j);
-                    }
-                }
-            }
-        }
-
         /**
          * Each point stands in two of the four triples, so the fourth holds just the points
          * that stand in one of the other three.
          */
-        private void findWith(Board board, int i, int j) {
-            int two = board.setOf(i) ^ board.setOf(j);
-            for (int k = j + 1; k < board.size; k++) {
-                int rest = two ^ board.setOf(k);
-                if (Integer.bitCount(rest) == 3) {
-                    int l = board.numberOf(rest);
-                    if (l > k) {
-                        keep(i, j, k, l, board.setOf(i) | board.setOf(j) | rest);
+        void gather(Board board) {
+            size = 0;
+            for (int i = 0; i < board.size; i++) {
+                for (int j = i + 1; j < board.size; j++) {
+                    boolean meet = (board.setOf(i) & board.setOf(j)) != 0;
+                    for (int k = j + 1; k < board.size && meet; k++) {
+                        int rest = board.setOf(i) ^ board.setOf(j) ^ board.setOf(k);
+                        int l = Integer.bitCount(rest) == 3 ? board.numberOf(rest) : NONE;
+                        if (l > k) {
+                            keep(i, j, k, l, board.setOf(i) | board.setOf(j) | rest);
+                        }
                     }
                 }
             }
@@ -1260,7 +1258,7 @@ public final class TripleTrains {
         private final int[] row = new int[2 * MAX_POINTS];
         private final long[] steps = new long[2 * MAX_POINTS];
 
-        void find(Board board, int a, int b) {
+        void gather(Board board, int a, int b) {
             size = 0;
             first = a;
             second = b;
@@ -1359,17 +1357,17 @@ public final class TripleTrains {
         int size;
         private final long[] masks = new long[MAX_TRADES];
 
-        void find(Board board, Cycles around, int volume) {
+        void gather(Board board, Cycles around, int volume) {
             size = 0;
             for (int a = 0; a < board.points; a++) {
                 for (int b = a + 1; b < board.points; b++) {
-                    around.find(board, a, b);
-                    findAmong(around, volume);
+                    around.gather(board, a, b);
+                    gatherAmong(around, volume);
                 }
             }
         }
 
-        private void findAmong(Cycles around, int volume) {
+        private void gatherAmong(Cycles around, int volume) {
             for (int c = 0; c < around.size; c++) {
                 if (around.lengthOf(c) == volume) {
                     insert(around.tradeOf(c));
@@ -1404,7 +1402,7 @@ public final class TripleTrains {
         private final int[] arrivals = new int[MAX_SETS];
         private final int[] marks = new int[MAX_SETS];
 
-        void find(Board board) {
+        void gather(Board board) {
             size = 0;
             for (int i = 0; i < MAX_SETS; i++) {
                 arrivals[i] = 0;
