@@ -108,6 +108,11 @@ public final class PromisesTest {
         loads("points 7;triple 4 5 6;develop 0 1 3;", -1, 3, 35);
         loads("points 6;develop 0 2 4;develop 0 1 3;", -1, 3, 36);
         loads("points 7;swap 0 1;", -1, 1, 9);
+        loads("points 7;triplea 0 1 2;", -1, 1, 9);
+        loads("points 7;triplez 0 1 2;", -1, 1, 9);
+        loads("points 7;triple{ 0 1 2;", -1, 1, 15);
+        loads("points 7;triple 0 1:2;", -1, 1, 19);
+        loads("points 7;triple 0 1/2;", -1, 1, 19);
         loads("points 7;triple 0 -1 2;", -1, 1, 18);
         loads("points 7;triple 0 1 2; \u00e9", -1, 1, 23);
     }

@@ -839,7 +839,8 @@ public final class TripleTrains {
 
         /** The number of the triple that covers a pair. */
         int numberCovering(int a, int b) {
-            return thirdOf(a, b) == NONE ? NONE : numbers[a * MAX_POINTS + b];
+            boolean covered = isPoint(a) && isPoint(b) && thirdOf(a, b) != NONE;
+            return covered ? numbers[a * MAX_POINTS + b] : NONE;
         }
 
         int numberOf(int set) {
