@@ -16,17 +16,20 @@ public final class TripleTrains {
     private static final int MAX_POINTS = 15;
     /** 15 points have 105 pairs, and a triple covers three of them. */
     private static final int MAX_TRIPLES = 35;
-    /** Two triples that meet stand in two quadrilaterals at most, and each has six such twos: 315 * 2 / 6. */
+    /** 315 twos of triples meet at most; each stands in two quadrilaterals at most, which have six such twos. */
     private static final int MAX_QUADS = 105;
     /** 13 points beside the two, 4 at least in each cycle. */
     private static final int MAX_CYCLES = 3;
     private static final int MAX_LENGTH = 12;
+    /** Three cycles for each of 105 pairs. */
     private static final int MAX_TRADES = 315;
+    /** Three of 15 points. */
     private static final int MAX_SETS = 455;
     private static final int MAX_INPUT = 600;
     private static final int APPENDED = 20;
     private static final int MAX_UNDO = 10;
     private static final int MAX_OPEN_PAIRS = 30;
+    /** The triples that cover so many pairs. */
     private static final int MAX_ADDED = 10;
     private static final int MAX_APART = 5;
     private static final int MAX_TIMES = 20;
@@ -147,7 +150,13 @@ public final class TripleTrains {
 
     public int reason(int x, int y, int z) throws IndexOutOfBoundsException, IllegalArgumentException {
         requireThree(x, y, z);
-        return reasonAgainst(Sets.three(x, y, z));
+        int set = Sets.three(x, y, z);
+        if (board.holds(set)) {
+            return 1;
+        }
+        // Each pair that is covered has a triple of its own: one that covers two would hold all three points.
+        int coveredPairs = board.meeting(set, 2);
+        return coveredPairs == 0 ? 0 : 1 + coveredPairs;
     }
 
     public int add(int x, int y, int z)
@@ -245,7 +254,17 @@ public final class TripleTrains {
     }
 
     public int bestSwitch(boolean most) {
-        return bestQuad(most);
+        int best = NONE;
+        int bestLeft = 0;
+        for (int q = 0; q < quads.size; q++) {
+            quads.planSwitch(board, q, exchange);
+            int left = quadsBehindExchange();
+            if (best == NONE || (most ? left > bestLeft : left < bestLeft)) {
+                best = q;
+                bestLeft = left;
+            }
+        }
+        return best;
     }
 
     public int descend(int times) throws IllegalArgumentException {
@@ -255,7 +274,7 @@ public final class TripleTrains {
         remember();
         int done = 0;
         while (done < times) {
-            int best = bestQuad(false);
+            int best = bestSwitch(false);
             if (best == NONE || quadsBehindSwitchOf(best) >= quads.size) {
                 break;
             }
@@ -640,14 +659,6 @@ public final class TripleTrains {
         quads.gather(board);
     }
 
-    private int reasonAgainst(int set) {
-        if (board.holds(set)) {
-            return 1;
-        }
-        int inTheWayNow = board.meeting(set, 2);
-        return inTheWayNow == 0 ? 0 : 1 + inTheWayNow;
-    }
-
     private void exchangeQuad(int quad) {
         quads.planSwitch(board, quad, exchange);
         exchange.applyTo(board);
@@ -665,20 +676,6 @@ public final class TripleTrains {
         spare.copy(board);
         exchange.applyTo(spare);
         return Quads.countOn(spare);
-    }
-
-    private int bestQuad(boolean most) {
-        int best = NONE;
-        int bestLeft = 0;
-        for (int q = 0; q < quads.size; q++) {
-            quads.planSwitch(board, q, exchange);
-            int left = quadsBehindExchange();
-            if (best == NONE || (most ? left > bestLeft : left < bestLeft)) {
-                best = q;
-                bestLeft = left;
-            }
-        }
-        return best;
     }
 
     private boolean isPerfect(int a, int b) {
