@@ -238,7 +238,7 @@ public final class TripleTrains {
 
     public int quadsOf(int triple) throws IndexOutOfBoundsException {
         requireTriple(triple);
-        return quads.holdingTriple(triple);
+        return quads.holdingAny(1L << triple);
     }
 
     public int switchQuad(int quad) throws IndexOutOfBoundsException {
@@ -672,10 +672,11 @@ public final class TripleTrains {
         return quadsBehindExchange();
     }
 
+    /** Only the quadrilaterals that lose a triple, and those that have a new one, make a difference. */
     private int quadsBehindExchange() {
         spare.copy(board);
-        exchange.applyTo(spare);
-        return Quads.countOn(spare);
+        int lost = quads.holdingAny(exchange.goneNumbers);
+        return quads.size - lost + exchange.applyTo(spare);
     }
 
     private boolean isPerfect(int a, int b) {
@@ -774,7 +775,7 @@ public final class TripleTrains {
 
     /**
      * A system. Its third points and open pairs change with each put and drop;
-     * the row of triples and their numbers are those of the latest list().
+     * the row of triples and their numbers are those of the latest list(), and none behind reset and copy.
      */
     private static final class Board {
         int points;
@@ -798,11 +799,9 @@ public final class TripleTrains {
 
         void copy(Board other) {
             points = other.points;
-            size = other.size;
+            size = 0;
             System.arraycopy(other.thirds, 0, thirds, 0, thirds.length);
-            System.arraycopy(other.numbers, 0, numbers, 0, numbers.length);
             System.arraycopy(other.open, 0, open, 0, open.length);
-            System.arraycopy(other.sets, 0, sets, 0, sets.length);
         }
 
         boolean isPoint(int point) {
@@ -1085,11 +1084,14 @@ public final class TripleTrains {
     /** Triples that a switch takes away, and those that it brings in their places. */
     private static final class Exchange {
         int size;
+        /** The numbers of the triples that go, as a bit mask. */
+        long goneNumbers;
         private final int[] gone = new int[MAX_LENGTH];
         private final int[] come = new int[MAX_LENGTH];
 
-        void begin() {
+        void begin(long numbersThatGo) {
             size = 0;
+            goneNumbers = numbersThatGo;
         }
 
         void plan(int out, int in) {
@@ -1100,20 +1102,25 @@ public final class TripleTrains {
             }
         }
 
-        void applyTo(Board board) {
+        /** The number of quadrilaterals with new triples: each is counted when the last of these comes. */
+        int applyTo(Board board) {
             for (int i = 0; i < size && i < gone.length; i++) {
                 board.drop(gone[i]);
             }
+            int made = 0;
             for (int i = 0; i < size && i < come.length; i++) {
                 board.put(come[i]);
+                made += Quads.countWith(board, come[i]);
             }
+            return made;
         }
     }
 
     /** The quadrilaterals of a system, in their order. */
     private static final class Quads {
         int size;
-        private final int[] triples = new int[4 * MAX_QUADS];
+        /** For each the numbers of its triples, as a bit mask. */
+        private final long[] masks = new long[MAX_QUADS];
         private final int[] unions = new int[MAX_QUADS];
 
         /**
@@ -1125,8 +1132,9 @@ public final class TripleTrains {
             for (int i = 0; i < board.size; i++) {
                 for (int j = i + 1; j < board.size; j++) {
                     boolean meet = (board.setOf(i) & board.setOf(j)) != 0;
+                    int two = board.setOf(i) ^ board.setOf(j);
                     for (int k = j + 1; k < board.size && meet; k++) {
-                        int rest = board.setOf(i) ^ board.setOf(j) ^ board.setOf(k);
+                        int rest = two ^ board.setOf(k);
                         int l = Integer.bitCount(rest) == 3 ? board.numberOf(rest) : NONE;
                         if (l > k) {
                             keep(i, j, k, l, board.setOf(i) | board.setOf(j) | rest);
@@ -1138,19 +1146,19 @@ public final class TripleTrains {
 
         private void keep(int i, int j, int k, int l, int union) {
             if (size < MAX_QUADS) {
-                int at = 4 * size;
-                triples[at] = i;
-                triples[at + 1] = j;
-                triples[at + 2] = k;
-                triples[at + 3] = l;
+                masks[size] = 1L << i | 1L << j | 1L << k | 1L << l;
                 unions[size] = union;
                 size++;
             }
         }
 
+        /** The bits of a mask rise as the numbers do. */
         int tripleOf(int quad, int index) {
-            boolean there = quad >= 0 && quad < size && index >= 0 && index < 4;
-            return there ? triples[4 * quad + index] : NONE;
+            long rest = maskOf(quad);
+            for (int i = 0; i < index; i++) {
+                rest &= rest - 1L;
+            }
+            return rest == 0L ? NONE : Long.bitCount((rest & -rest) - 1L);
         }
 
         int pointsOf(int quad) {
@@ -1182,10 +1190,10 @@ public final class TripleTrains {
             return found;
         }
 
-        int holdingTriple(int triple) {
+        int holdingAny(long triples) {
             int found = 0;
             for (int q = 0; q < size; q++) {
-                if ((maskOf(q) >> triple & 1L) == 1L) {
+                if ((maskOf(q) & triples) != 0L) {
                     found++;
                 }
             }
@@ -1193,11 +1201,7 @@ public final class TripleTrains {
         }
 
         private long maskOf(int quad) {
-            long mask = 0L;
-            for (int i = 0; i < 4; i++) {
-                mask |= 1L << tripleOf(quad, i);
-            }
-            return mask;
+            return quad >= 0 && quad < size ? masks[quad] : 0L;
         }
 
         boolean hasMask(long mask) {
@@ -1211,39 +1215,31 @@ public final class TripleTrains {
 
         /** The opposites of the points of a triple are the three of the six that are not in it. */
         void planSwitch(Board board, int quad, Exchange exchange) {
-            exchange.begin();
+            exchange.begin(maskOf(quad));
             for (int i = 0; i < 4; i++) {
                 int set = board.setOf(tripleOf(quad, i));
                 exchange.plan(set, pointsOf(quad) & ~set);
             }
         }
 
-        /** Needs no list of the triples, so that forecasts can do without. */
-        static int countOn(Board board) {
-            int found = 0;
-            for (int p = 0; p < board.points; p++) {
-                found += countAt(board, p);
-            }
-            return found / 6;
-        }
-
-        private static int countAt(Board board, int p) {
+        /**
+         * Counts those of which a triple is one; needs no list of the triples.
+         * In each of them, one more triple stands at the point x of the triple, and the other two
+         * lead from y and z to one point.
+         */
+        static int countWith(Board board, int set) {
+            int x = Sets.member(set, 0);
+            int y = Sets.member(set, 1);
+            int z = Sets.member(set, 2);
             int found = 0;
             for (int a = 0; a < board.points; a++) {
-                int b = board.thirdOf(p, a);
-                for (int c = a + 1; c < board.points && b > a; c++) {
-                    int d = board.thirdOf(p, c);
-                    if (d > c) {
-                        found += meetsAgain(board, a, c, b, d) + meetsAgain(board, a, d, b, c);
-                    }
+                int b = board.thirdOf(x, a);
+                if (b != NONE && a != y && a != z) {
+                    int meet = board.thirdOf(y, a);
+                    found += meet != NONE && meet == board.thirdOf(z, b) ? 1 : 0;
                 }
             }
             return found;
-        }
-
-        private static int meetsAgain(Board board, int a, int c, int b, int d) {
-            int meet = board.thirdOf(a, c);
-            return meet != NONE && meet == board.thirdOf(b, d) ? 1 : 0;
         }
     }
 
@@ -1338,7 +1334,7 @@ public final class TripleTrains {
         }
 
         void planSwitch(int cycle, Exchange exchange) {
-            exchange.begin();
+            exchange.begin(tradeOf(cycle));
             int length = lengthOf(cycle);
             for (int i = 0; i < length; i++) {
                 int here = pointAt(cycle, i);
