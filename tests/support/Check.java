@@ -2,17 +2,23 @@
 public final class Check {
     private static int asked = 0;
     private static int wrong = 0;
+    private static String title = "";
 
     private Check() { }
 
     /** A call that may throw. */
     public interface Call { Object make(); }
 
+    /** Names the test whose answers come now. */
+    public static void begin(String test) { title = test + ": "; }
+
+    public static int asked() { return asked; }
+
     public static void due(String what, Object want, Object got) {
         asked++;
         if (!want.equals(got)) {
             wrong++;
-            System.out.println(what + " answered " + got + ", due is " + want);
+            System.out.println(title + what + " answered " + got + ", due is " + want);
         }
     }
 
@@ -49,7 +55,7 @@ public final class Check {
         input(x, text);
         if (x.loadSystem() < 0) {
             wrong++;
-            System.out.println("did not load: " + text + " (" + x.errorCode() + " at " + x.errorOffset() + ")");
+            System.out.println(title + "did not load: " + text + " (" + x.errorCode() + " at " + x.errorOffset() + ")");
         }
         return x;
     }
