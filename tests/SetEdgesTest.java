@@ -191,8 +191,12 @@ public final class SetEdgesTest extends Edges {
         int[][] want = {{6, 1, 3}, {6, 2, 0}, {6, 4, 5}, {1, 2, 4}, {1, 5, 0}, {2, 3, 5}};
         for (int[] w : want) is(w[0] + " " + w[1] + " " + w[2], true, x.find(w[0], w[1], w[2]) >= 0);
         due("no more", 6, x.count(1));
+        inItself("exchanged", x);
         x.swap(0, 6);
         Check.due("and back", Portrait.triples(Made.open()), Portrait.triples(x));
+        TripleTrains y = load("points 15;triple 0 1 2;triple 3 4 5;");
+        y.swap(2, 14);
+        inItself("one into nothing", y);
     }
 
     @Says(at = 56, line = "This is a change.")

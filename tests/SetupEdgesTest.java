@@ -117,6 +117,13 @@ public final class SetupEdgesTest extends Edges {
         loads("Points 7;", -1, SYNTAX, 0);
         loads("points 7;tripledevelop 0 1 3;", -1, SYNTAX, 9);
         loads("points7;triple0 1 3;", 1, 0, -1);
+        for (String word : new String[] {"points", "triple", "develop"}) {
+            String begin = word.equals("points") ? "" : "points 7;";
+            for (int i = 0; i < word.length(); i++) {
+                loads(begin + word.substring(0, i) + "x" + word.substring(i + 1) + " 0 1 3;", -1, SYNTAX, begin.length());
+                loads(begin + word.substring(0, i) + word.substring(i + 1) + " 0 1 3;", -1, SYNTAX, begin.length());
+            }
+        }
     }
 
     @Says(at = 0, line = "numbers (maximal runs of digits, 1 or 2 of them)")

@@ -88,7 +88,9 @@ public final class StateEdgesTest extends Edges {
             TripleTrains x = Made.open();
             change.getValue().of(x);
             due(change.getKey(), 6, x.count(7));
+            inItself(change.getKey(), x);
             due("undone", 5, x.undo());
+            inItself(change.getKey() + ", undone", x);
             Check.due("behind it", Portrait.of(Made.open()), Portrait.of(x));
         }
         isChange(() -> load("points 7;"), x -> x.develop(0, 1, 3));
@@ -136,6 +138,17 @@ public final class StateEdgesTest extends Edges {
         for (int i = 0; i < 10; i++) y.undo();
         due("the first of eleven stays", 1, y.count(1));
         due("0 5 10", 0, y.find(0, 5, 10));
+        for (int changes = 10; changes <= 25; changes++) eachState(changes);
+    }
+
+    /** A triple goes round, so that the states behind ten changes all differ. */
+    private static void eachState(int changes) {
+        TripleTrains x = load("points 15;triple 0 1 3;");
+        for (int i = 0; i < changes; i++) x.turn(1);
+        for (int behind = changes - 1; behind >= changes - 10; behind--) {
+            x.undo();
+            due("behind " + behind + " of " + changes, 0, x.find(behind % 15, (behind + 1) % 15, (behind + 3) % 15));
+        }
     }
 
     @Says(at = 0, line = "Questions change nothing.")

@@ -31,8 +31,26 @@ public final class SwitchEdgesTest extends Edges {
         for (int p = 0; p < 6; p++) due("of " + p, 5 - p, x.opposite(0, p));
         TripleTrains y = load("points 15;triple 9 10 11;triple 9 12 13;triple 10 12 14;triple 11 13 14;");
         for (int p = 9; p < 15; p++) due("of " + p, 23 - p, y.opposite(0, p));
+        for (int a = 1; a < 6; a++) for (int b = 1; b < 6; b++) if (a != b) oppositesOf(a, b);
         TripleTrains z = Made.full();
         due("covered by another triple of the system", 1, z.third(z.quad(6, 4), z.opposite(6, z.quad(6, 4))) >= 0 ? 1 : 0);
+    }
+
+    /** The opposite of 0 is a, that of b is c, those of the last two are each other. */
+    private static void oppositesOf(int a, int b) {
+        for (int c = b + 1; c < 6; c++) {
+            if (c == a) continue;
+            int d = 1;
+            while (d == a || d == b || d == c) d++;
+            int e = 15 - a - b - c - d;
+            TripleTrains x = load("points 6;triple 0 " + b + " " + d + ";triple 0 " + c + " " + e + ";triple "
+                + a + " " + b + " " + e + ";triple " + a + " " + c + " " + d + ";");
+            int[][] want = {{0, a}, {b, c}, {d, e}};
+            for (int[] w : want) {
+                due("of " + w[0], w[1], x.opposite(0, w[0]));
+                due("of " + w[1], w[0], x.opposite(0, w[1]));
+            }
+        }
     }
 
     @Says(at = 0, line = "Switching it replaces each of the four triples by that of the opposites of its points.")
@@ -147,6 +165,28 @@ public final class SwitchEdgesTest extends Edges {
         due("0 5 6", 2, x.find(0, 5, 6));
         due("0 7 2, the last one and the first one", 0, x.find(0, 7, 2));
         due("no more", 6, x.count(1));
+        inItself("switched", x);
+    }
+
+    /** Nothing of a longer switch is left in a shorter one. */
+    @Says(at = 0, line = "Switching a cycle of a and b replaces")
+    private static void switchesOfTheirOwn() {
+        String beside = ";triple 0 1 2;triple 0 3 4;triple 1 3 5;triple 2 4 5;";
+        String six = "triple 6 8 9;triple 7 9 10;triple 6 10 11;triple 7 11 12;triple 6 12 13;triple 7 8 13;";
+        TripleTrains x = load("points 14" + beside + six);
+        due("the long one", 6, x.switchCycle(6, 7, 0));
+        due("the short one", 4, x.switchCycle(0, 5, 0));
+        inItself("both switched", x);
+        int[][] want = {{7, 8, 9}, {6, 9, 10}, {7, 10, 11}, {6, 11, 12}, {7, 12, 13}, {6, 8, 13}, {5, 1, 2}, {5, 3, 4}, {0, 1, 3}, {0, 2, 4}};
+        for (int[] w : want) is(w[0] + " " + w[1] + " " + w[2], true, x.find(w[0], w[1], w[2]) >= 0);
+        due("no more", 10, x.count(1));
+        due("a forecast of the long one", 1, x.wouldHaveBy(6, 7, 0));
+        due("then one of the short one", 1, x.wouldHaveBy(0, 5, 0));
+        due("and one of the quadrilateral", 1, x.wouldHave(0));
+        x.switchCycle(6, 7, 0);
+        due("and its switch", 1, x.switchQuad(0));
+        Check.due("all back", Portrait.triples(load("points 14" + beside + six)), Portrait.triples(x));
+        inItself("all back", x);
     }
 
     @Says(at = 0, line = "A trade is a set of triples of the system that switching some cycle of some two points replaces")
@@ -561,9 +601,21 @@ public final class SwitchEdgesTest extends Edges {
             x.switchCycle(0, 1, c);
             due("cycle " + c, x.count(3), want);
         }
+        for (int a = 0; a < 13; a++) for (int b = 0; b < 13; b++) if (a != b) forecastsOf(a, b);
         due("back to all", 105, switched().wouldHaveBy(14, 0, 2));
         due("none", 0, load(Made.TWELVE).wouldHaveBy(0, 1, 0));
         changesNothing(Made::full, "a forecast", x -> x.wouldHaveBy(0, 1, 0));
+    }
+
+    private static void forecastsOf(int a, int b) {
+        TripleTrains x = load(Made.THIRTEEN);
+        int cycles = x.cycles(a, b);
+        for (int c = 0; c < cycles; c++) {
+            int want = x.wouldHaveBy(a, b, c);
+            x.switchCycle(a, b, c);
+            due("of thirteen, " + a + " " + b + " " + c, x.count(3), want);
+            x.undo();
+        }
     }
 
     private static TripleTrains switched() {

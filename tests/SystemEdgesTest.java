@@ -84,6 +84,7 @@ public final class SystemEdgesTest extends Edges {
 
     @Says(at = 0, line = "The third point of two different points is the other one of the triple that covers them")
     private static void otherPoint() {
+        for (int v = 3; v <= 15; v++) inItself("filled " + v, filled("points " + v + ";", fillOf(v)));
         TripleTrains x = load("points 15;triple 0 7 14;");
         for (int[] o : ORDERS) due("of " + 7 * o[0] + " and " + 7 * o[1], 7 * o[2], x.third(7 * o[0], 7 * o[1]));
     }
@@ -551,6 +552,9 @@ public final class SystemEdgesTest extends Edges {
         due("the five apart", 1, load("points 15;develop 0 1 4;develop 0 2 8;").completions());
         TripleTrains x = load("points 7;triple 0 1 2;triple 3 4 5;");
         due("three points of 6 lack", 0, x.completions());
+        TripleTrains y = load("points 9;triple 0 5 7;triple 1 4 7;triple 3 4 5;triple 6 7 8;");
+        due("2 7 is the tightest pair", 16 * 2 + 7, y.tightest());
+        due("one of two with 0 2 8", 2, y.completions());
     }
 
     @Says(at = 19, line = "1 if it is complete, the empty set")

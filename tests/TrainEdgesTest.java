@@ -9,6 +9,25 @@ public final class TrainEdgesTest extends Edges {
     /** Made of digits to the base 16, as the train tells it. */
     private static int[] points(int digits) { return new int[] {digits & 15, digits >> 4 & 15, digits >> 8}; }
 
+    /** Follows the train until a set comes again: the steps before it came first, and those between. */
+    private static int[] tailAndRound(TripleTrains x, int set) {
+        java.util.List<Integer> way = new java.util.ArrayList<>();
+        int at = set;
+        while (!way.contains(at)) {
+            way.add(at);
+            int[] p = points(at);
+            at = x.train(p[0], p[1], p[2]);
+        }
+        return new int[] {way.indexOf(at), way.size() - way.indexOf(at)};
+    }
+
+    /** All sets of three of thirteen points, as digits to the base 16. */
+    private static java.util.List<Integer> setsOfThirteen() {
+        java.util.List<Integer> all = new java.util.ArrayList<>();
+        for (int c = 2; c < 13; c++) for (int b = 1; b < c; b++) for (int a = 0; a < b; a++) all.add(c * 256 + b * 16 + a);
+        return all;
+    }
+
     // ---- terms
 
     @Says(at = 0, line = "the train leads from any set of three points {x, y, z} to the set of the third points of y and z, of x and z, and of x and y")
@@ -110,6 +129,20 @@ public final class TrainEdgesTest extends Edges {
         due("no triple of fifteen", 0, load(Made.FIFTEEN).trainsTo(0, 5, 11));
         for (int c = 2; c < 9; c++) due("of nine, 0 1 " + c, 1, load(Made.NINE).trainsTo(0, 1, c));
         due("the last set of nine", 1, load(Made.NINE).trainsTo(8, 7, 6));
+        TripleTrains x = load(Made.FIFTEEN);
+        x.swap(14, x.third(12, 13));
+        for (int time = 0; time < 3; time++) due("the last set of fifteen, asked again", 13, x.trainsTo(12, 13, 14));
+        TripleTrains leading = load(Made.THIRTEEN);
+        TripleTrains asked = load(Made.THIRTEEN);
+        int[] from = new int[4096];
+        for (int set : setsOfThirteen()) {
+            int[] p = points(set);
+            from[leading.train(p[0], p[1], p[2])]++;
+        }
+        for (int set : setsOfThirteen()) {
+            int[] p = points(set);
+            due("to " + set, from[set], asked.trainsTo(p[1], p[2], p[0]));
+        }
     }
 
     @Says(at = 40, line = "Throws IndexOutOfBoundsException if there is no such point")
@@ -128,6 +161,11 @@ public final class TrainEdgesTest extends Edges {
         due("one step to a triple", 1, Made.full().tail(0, 1, 2));
         due("the last points", 1, load(Made.FIFTEEN).tail(14, 13, load(Made.FIFTEEN).third(13, 14) == 12 ? 11 : 12));
         due("in its round already", 0, load(Made.NINE).tail(0, 1, 3));
+        for (int set : setsOfThirteen()) {
+            TripleTrains x = load(Made.THIRTEEN);
+            int[] p = points(set);
+            due("of thirteen, " + set, tailAndRound(x, set)[0], x.tail(p[1], p[0], p[2]));
+        }
     }
 
     @Says(at = 41, line = "Throws IndexOutOfBoundsException if there is no such point")
@@ -146,6 +184,11 @@ public final class TrainEdgesTest extends Edges {
         due("behind a step", 1, Made.full().roundOf(0, 1, 2));
         due("three", 3, load(Made.NINE).roundOf(0, 1, 3));
         due("a triple of nine", 1, load(Made.NINE).roundOf(0, 1, 2));
+        for (int set : setsOfThirteen()) {
+            TripleTrains x = load(Made.THIRTEEN);
+            int[] p = points(set);
+            due("of thirteen, " + set, tailAndRound(x, set)[1], x.roundOf(p[1], p[0], p[2]));
+        }
     }
 
     @Says(at = 42, line = "Throws IndexOutOfBoundsException if there is no such point")

@@ -48,6 +48,27 @@ public abstract class Edges {
         isChange(made, call);
     }
 
+    /** The third points, the numbers and the open pairs are those of the triples, whatever stood before. */
+    protected static void inItself(String what, TripleTrains x) {
+        int points = x.count(0);
+        int[][] thirds = new int[points][points];
+        for (int[] row : thirds) Arrays.fill(row, -1);
+        int triples = x.count(1);
+        for (int t = 0; t < triples; t++) {
+            int[] p = {x.triple(t, 0), x.triple(t, 1), x.triple(t, 2)};
+            thirds[p[0]][p[1]] = p[2];
+            thirds[p[0]][p[2]] = p[1];
+            thirds[p[1]][p[2]] = p[0];
+        }
+        int open = 0;
+        for (int a = 0; a < points; a++)
+            for (int b = a + 1; b < points; b++) {
+                if (thirds[a][b] < 0) open++;
+                due(what + ", third of " + a + " " + b, thirds[a][b], x.third(a, b));
+            }
+        due(what + ", pairs that are not covered", open, x.count(2));
+    }
+
     protected static void changesNothing(Supplier<TripleTrains> made, String call, Refused.Ask ask) {
         TripleTrains x = made.get();
         ask.of(x);
