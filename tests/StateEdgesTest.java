@@ -80,7 +80,73 @@ public final class StateEdgesTest extends Edges {
         return all;
     }
 
+    /** The questions about the system alone: nothing that was answers them. */
+    private static Map<String, Refused.Ask> questionsOfSystem() {
+        Map<String, Refused.Ask> all = questions();
+        for (String other : new String[] {"errorCode", "errorOffset", "count 4", "count 5", "count 6", "count 7", "outputByte"}) all.remove(other);
+        all.putAll(questionsOfComplete());
+        return all;
+    }
+
+    /** Each question is asked of a new object, as one before it could mend what is wrong. */
+    private static void answerAlike(String what, Supplier<TripleTrains> want, Supplier<TripleTrains> got) {
+        for (Map.Entry<String, Refused.Ask> q : questionsOfSystem().entrySet()) {
+            TripleTrains x = want.get();
+            TripleTrains y = got.get();
+            Object due = Check.outcome(() -> q.getValue().of(x));
+            Check.due(what + ", " + q.getKey(), due, Check.outcome(() -> q.getValue().of(y)));
+        }
+    }
+
+    private static TripleTrains behind(Supplier<TripleTrains> made, Refused.Ask change) {
+        TripleTrains x = made.get();
+        Check.outcome(() -> change.of(x));
+        return x;
+    }
+
+    private static TripleTrains undone(Supplier<TripleTrains> made, Refused.Ask change) {
+        TripleTrains x = behind(made, change);
+        x.undo();
+        return x;
+    }
+
     // ---- terms
+
+    @Says(at = 0, line = "all numbers of triples are those that they have now.")
+    private static void answersOfNow() {
+        for (Map.Entry<String, Refused.Ask> change : changes().entrySet())
+            for (Supplier<TripleTrains> made : java.util.List.<Supplier<TripleTrains>>of(Made::open, Made::fifteen, () -> load(Made.THIRTEEN))) {
+                Refused.Ask call = change.getValue();
+                String then = Portrait.setup(behind(made, call));
+                answerAlike("behind " + change.getKey(), () -> load(then), () -> behind(made, call));
+                String back = Portrait.setup(undone(made, call));
+                answerAlike("undone, " + change.getKey(), () -> load(back), () -> undone(made, call));
+            }
+    }
+
+    @Says(at = 0, line = "An error changes nothing but the input buffer and the reported error.")
+    private static void answersBehindError() {
+        for (String bad : new String[] {"points 3;x", "points 15;develop 0 5 10;x", "points 9;triple 0 1 2;triple 0 1 3;"})
+            for (Supplier<TripleTrains> made : Made.all()) {
+                answerAlike("behind " + bad, made, () -> refusedLoad(made, bad));
+                for (Map.Entry<String, Refused.Ask> change : changes().entrySet()) {
+                    TripleTrains want = made.get();
+                    Object answer = Check.outcome(() -> change.getValue().of(want));
+                    TripleTrains got = refusedLoad(made, bad);
+                    Check.due(change.getKey() + " behind " + bad, answer, Check.outcome(() -> change.getValue().of(got)));
+                    Check.due("all behind both", Portrait.now(want), Portrait.now(got));
+                    inItself(change.getKey() + " behind " + bad, got);
+                }
+            }
+    }
+
+    private static TripleTrains refusedLoad(Supplier<TripleTrains> made, String bad) {
+        TripleTrains x = made.get();
+        x.truncateInput(0);
+        Check.input(x, bad);
+        due("load of " + bad, -1, x.loadSystem());
+        return x;
+    }
 
     @Says(at = 0, line = "Changes are the methods whose description says so")
     private static void changesCount() {

@@ -487,6 +487,7 @@ public final class SwitchEdgesTest extends Edges {
         due("one of seven", 1, Made.full().cycles(6, 5));
         due("three of fifteen", 3, load(Made.FIFTEEN).cycles(14, 13));
         due("one of twelve points", 1, load(Made.TWELVE).cycles(1, 0));
+        due("through the last points", 1, load("points 15;triple 0 11 12;triple 0 13 14;triple 1 12 13;triple 1 11 14;").cycles(0, 1));
         due("a way that ends", 0, load(Made.PASCH).cycles(0, 1));
     }
 
@@ -673,6 +674,7 @@ public final class SwitchEdgesTest extends Edges {
         due("most", 105, load(Made.FIFTEEN).trades(4));
         due("of nine points, one for each pair", 36, load(Made.NINE).trades(6));
         due("none of four", 0, load(Made.NINE).trades(4));
+        due("at the last points", 1, load("points 15;triple 9 10 11;triple 9 12 13;triple 10 12 14;triple 11 13 14;").trades(4));
     }
 
     @Says(at = 35, line = "volume: any int")
@@ -728,6 +730,9 @@ public final class SwitchEdgesTest extends Edges {
         due("none of fifteen", 0, load(Made.FIFTEEN).perfectPairs());
         due("not covered, six others", 1, load(SIX).perfectPairs());
         due("not covered, twelve others", 1, load(Made.TWELVE).perfectPairs());
+        TripleTrains last = load(Made.TWELVE);
+        last.turn(12);
+        due("the last two points", 1, last.perfectPairs());
         due("covered, twelve others", 1, load(Made.TWELVE.replace("14", "15") + "triple 0 1 14;").perfectPairs());
         due("one point is left over", 0, load(Made.TWELVE.replace("14", "15")).perfectPairs());
         due("one cycle, and points left over", 0, load(Made.PASCH.replace("6;", "7;")).perfectPairs());

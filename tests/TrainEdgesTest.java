@@ -282,6 +282,9 @@ public final class TrainEdgesTest extends Edges {
         for (int k : FAR) is("by " + k, k % 3 == 0, x.isTurned(k));
         is("by the least and two", true, x.isTurned(Integer.MIN_VALUE + 2));
         is("by the greatest but one", true, x.isTurned(Integer.MAX_VALUE - 1));
+        Check.input(x, "points 7;x");
+        x.loadSystem();
+        for (int k = -20; k <= 20; k++) is("behind an error, by " + k, k % 3 == 0, x.isTurned(k));
         TripleTrains y = load("points 15;triple 12 13 14;");
         for (int k = -31; k <= 31; k++) is("one triple by " + k, k % 15 == 0, y.isTurned(k));
         for (int k : FAR) is("all turns by " + k, true, load(Made.FIFTEEN).isTurned(k));

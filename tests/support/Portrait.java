@@ -31,6 +31,18 @@ public final class Portrait {
         return s.append('\n').toString();
     }
 
+    /** A setup text that loads the system as it is. */
+    public static String setup(TripleTrains x) {
+        StringBuilder s = new StringBuilder("points ").append(x.count(0)).append(';');
+        int triples = x.count(1);
+        for (int t = 0; t < triples; t++) {
+            s.append("triple");
+            for (int i = 0; i < 3; i++) s.append(' ').append(x.triple(t, i));
+            s.append(';');
+        }
+        return s.toString();
+    }
+
     public static String output(TripleTrains x) {
         StringBuilder s = new StringBuilder();
         for (int i = 0; i < 40 && x.outputByte(i) >= 0; i++) s.append((char) x.outputByte(i));
